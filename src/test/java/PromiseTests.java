@@ -754,6 +754,84 @@ public final class PromiseTests {
         due("behind the last day", y.since(0, 1, 0), NONE);
     }
 
+    /** All rows full to the last place, with a parent list as long as a text can hold. */
+    private static void brimful() {
+        ClaimTrees x = new ClaimTrees();
+        for (int f = 0; f < 8; f++) {
+            due("filing", x.filing((1 << 30) - 1, 1000, f % 5), f);
+            for (int e = 0; e < 3; e++) {
+                due("elder", x.elder(f, 1 << 29, 1000 - f), e + 1);
+            }
+        }
+        for (int p = 0; p < 24; p++) {
+            due("paper", x.paper(1 << p, 100, 0), p);
+        }
+        for (int p = 0; p < 12; p++) {
+            due("product", x.product((1 << 30) - 1, 15, 0), p);
+        }
+        String five = "claim 28;claim 28;claim 28;claim 28;claim 28of 0,1,2,3;";
+        for (int f = 0; f < 8; f++) {
+            due("claims", tellClaims(x, f, five), 5);
+            due("pay", x.pay(f, 3, 20000), NONE);
+        }
+        due("claims", x.count(2), 40);
+        due("kind", x.kind(29, 28), 2);
+        for (int c = 0; c < 40; c++) {
+            due("versions", x.claim(c, 3), 1);
+            due("those of it", x.claim(c, 4), c % 5 == 4 ? 0 : 1);
+            due("by kinds of an elder told before", x.day(c, 0, 0), 1000 - c / 5);
+            due("taken by one with a lesser day, or none", x.by(c, 0, 0), NONE);
+        }
+        due("falls under all", x.falls(11, 3, 2000, 1), 40);
+        due("around all", x.around(11, 3, 2000), NONE);
+        due("narrow the last", x.narrow(39, 15), 4);
+        due("its version", x.version(39, 0), 1 << 28 | 15);
+        tellRules(x, 3, "most 3;known 28;");
+        due("four of four papers", x.does(39, 0, 3), 0);
+        tellRules(x, 3, "most 3;known 28;known 0;");
+        due("near ones alone", x.does(39, 0, 3), 0);
+        x.near(2, 0, true);
+        due("three of them", x.by(39, 0, 3), 14);
+    }
+
+    private static void afterAFault() {
+        ClaimTrees x = new ClaimTrees();
+        x.filing(255, 1000, 3);
+        due("a fault behind three", tellClaims(x, 0, "claim 0;claim 1 of 0;claim 2 of 1;?"), -11);
+        due("three others", tellClaims(x, 0, "claim 3;claim 4;claim 5 of 1;"), 3);
+        due("none is of the first", x.claim(0, 4), 0);
+        due("one is of the second", x.claim(1, 4), 1);
+        due("its version", x.version(2, 0), 48);
+        due("a claim alone, told twice", tellClaims(x, 0, "claim 3;"), NOT);
+        due("rules without a fault", x.count(4), 8);
+        x.filing(255, 1000, 3);
+        due("that text, of another filing", x.claims(1), 1);
+        due("claims told twice", x.claims(1), NOT);
+        due("a word from its first letter on", tellRules(x, 0, "zost 1;"), -11);
+        due("at", x.fault(), 0);
+        due("a word to its last letter", tellRules(x, 0, "mostz 1;"), -11);
+        due("at", x.fault(), 0);
+        due("good rules", tellRules(x, 0, "most 1;"), 1);
+        due("no fault then", x.fault(), NONE);
+        x.paper(8, 900, 3);
+        x.paper(16, 900, 3);
+        x.narrow(0, 16);
+        due("most 1", x.stands(0, 0), 1);
+        due("the filing's own field", x.by(0, 0, 1), 3);
+        x.near(1, 3, true);
+        x.near(3, 1, false);
+        x.near(3, 4, true);
+        x.near(4, 3, false);
+        x.paper(128, 900, 1);
+        x.paper(128, 900, 4);
+        x.narrow(0, 128);
+        tellRules(x, 1, "most 3;");
+        due("near no more, either way", x.does(0, 0, 1), 0);
+        x.near(3, 4, true);
+        due("near again", x.by(0, 0, 1), 1 | 2 | 8);
+        due("not of the empty set alone", x.stands(3, 0), 0);
+    }
+
     public static void main(String[] args) {
         newObject();
         kindAndWith();
@@ -776,6 +854,8 @@ public final class PromiseTests {
         products();
         goingAround();
         firstDays();
+        brimful();
+        afterAFault();
         System.out.println("PromiseTests: " + asked + " answers, " + wrong + " not as due");
         if (wrong != 0) {
             System.exit(1);
