@@ -334,9 +334,32 @@ public final class BoundaryTests {
         due("192 blanks and a clause", feedAll(y, " ".repeat(192) + "claim 1;"), 200);
         due("the clause at the very end", y.claims(0), 1);
         due("28 clauses without a blank", tellClaims(x, 3, "claim0;".repeat(28)), -16);
+        claimsOfManyOthers();
         ClaimTrees z = new ClaimTrees();
         z.filing(1, 1, 1);
         due("as many as a text can tell", tellClaims(z, 0, "claim0;".repeat(28) + "    "), 28);
+    }
+
+    /** Forty claims in three texts, sixteen of them of eight others each. */
+    private static void claimsOfManyOthers() {
+        ClaimTrees x = new ClaimTrees();
+        String bases = "claim0;claim1;claim2;claim3;claim4;claim5;claim6;claim7;";
+        String ofAll = "claim8of0,1,2,3,4,5,6,7;";
+        int[] others = {6, 6, 4};
+        for (int f = 0; f < 3; f++) {
+            x.filing(ALL, 1000, 0);
+            due("a text of others", tellClaims(x, f, bases + ofAll.repeat(others[f])), 8 + others[f]);
+        }
+        due("forty", x.count(2), 40);
+        for (int f = 0; f < 3; f++) {
+            for (int c = x.first(f) + 8; c < x.first(f) + 8 + others[f]; c++) {
+                due("versions of claim " + c, x.claim(c, 3), 8);
+                due("the last version of claim " + c, x.version(c, 7), 1 << 7 | 1 << 8);
+            }
+            due("those of the first of filing " + f, x.claim(x.first(f), 4), others[f]);
+            due("the first is narrowed", x.narrow(x.first(f), 1 << 9), 1);
+            due("so is the last", x.version(x.first(f) + 7 + others[f], 0), 1 | 1 << 8 | 1 << 9);
+        }
     }
 
     private static int feedAll(ClaimTrees x, String text) {
@@ -871,6 +894,15 @@ public final class BoundaryTests {
         due("both count to make it easy", z.does(0, 0, 0), 2);
         tellRules(z, 0, "grace 10;");
         due("one does not", z.does(0, 0, 0), 0);
+        ClaimTrees late = filed("claim 0 1 2;");
+        tellRules(late, 0, "most 3;");
+        late.paper(3, 1000, 0);
+        late.paper(1, 900, 0);
+        late.paper(2, 900, 0);
+        late.paper(4, 900, 0);
+        due("two would be enough, if the first one counted", late.by(0, 0, 0), 14);
+        late.paper(3, 999, 0);
+        due("one that counts", late.by(0, 0, 0), 24);
         ClaimTrees zero = new ClaimTrees();
         zero.filing(1, 0, 0);
         tellClaims(zero, 0, "claim 0;");
