@@ -1031,7 +1031,7 @@ public final class ClaimTrees {
                 return NONE;
             }
             for (int most = 0; most <= rules.values[Rules.MOST]; most++) {
-                int found = cover(need, helpful, fields, 0, most);
+                int found = cover(papers, need, helpful, fields, 0, most);
                 if (found != NONE) {
                     return found;
                 }
@@ -1040,7 +1040,7 @@ public final class ClaimTrees {
         }
 
         /** The first set of at most so many papers, from one on, of fields near to all, that have what is needed. */
-        private int cover(int need, int helpful, int fields, int from, int most) {
+        private static int cover(Papers papers, int need, int helpful, int fields, int from, int most) {
             if (need == 0) {
                 return 0;
             }
@@ -1051,7 +1051,8 @@ public final class ClaimTrees {
                 int open = need & ~papers.has[p];
                 boolean helps = most == 1 ? open == 0 : open != need;
                 if (helps && (helpful >> p & 1) != 0 && (fields >> papers.fields[p] & 1) != 0) {
-                    int rest = cover(open, helpful, fields & papers.nearTo[papers.fields[p]], p + 1, most - 1);
+                    int near = fields & papers.nearTo[papers.fields[p]];
+                    int rest = cover(papers, open, helpful, near, p + 1, most - 1);
                     if (rest != NONE) {
                         return rest | 1 << p;
                     }

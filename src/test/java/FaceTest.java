@@ -6,7 +6,9 @@ import java.nio.file.Files;
 import java.nio.file.Path;
 import java.util.ArrayList;
 import java.util.List;
+import java.util.Map;
 import java.util.Set;
+import java.util.TreeMap;
 import java.util.TreeSet;
 import java.util.regex.Matcher;
 import java.util.regex.Pattern;
@@ -18,7 +20,8 @@ public final class FaceTest {
         + "version(int,int) day(int,int,int) does(int,int,int) by(int,int,int) stands(int,int) wider(int,int) narrow(int,int) "
         + "toNarrow(int,int) pay(int,int,int) force(int,int,int) product(int,int,int) falls(int,int,int,int) around(int,int,int) "
         + "since(int,int,int)";
-    private static final int MOST_CLASSES = 12, MOST_FIELDS = 20, MOST_PARAMETERS = 7, MOST_LINES = 60;
+    private static final int MOST_CLASSES = 12, MOST_FIELDS = 20, MOST_PARAMETERS = 7, MOST_LINES = 60, MOST_DEPTH = 8;
+    private static final Pattern HEADER = Pattern.compile(" {4}(?: {4})?((?:public |private |static )*)(?:int|boolean|void) (\\w+)\\(.*\\) \\{");
     private static int wrong = 0;
 
     private static void hold(boolean is, String what) {
@@ -109,21 +112,64 @@ public final class FaceTest {
             hold(made.group(1).matches("[A-Z_* ]+"), "a length that is no constant: " + made.group());
         }
         methodLengths(code);
+        callRules(code);
     }
 
     /** A method opens at an indent of four or eight blanks with a bracket and closes at the same. */
+    private static int closingLine(String[] lines, int at) {
+        String close = lines[at].replaceAll("\\S.*", "") + "}";
+        int end = at;
+        while (end < lines.length - 1 && !lines[end].equals(close)) {
+            end++;
+        }
+        return end;
+    }
+
     private static void methodLengths(String code) {
         String[] lines = code.split("\n");
         for (int at = 0; at < lines.length; at++) {
             if (lines[at].matches(" {4}( {4})?\\S.*\\) \\{")) {
-                String close = lines[at].replaceAll("\\S.*", "") + "}";
-                int end = at;
-                while (end < lines.length - 1 && !lines[end].equals(close)) {
-                    end++;
-                }
-                hold(end - at < MOST_LINES, "too many lines: " + lines[at].trim());
+                hold(closingLine(lines, at) - at < MOST_LINES, "too many lines: " + lines[at].trim());
             }
         }
+    }
+
+    /** Methods of one name in several classes count as one, so the depth found is never too low. */
+    private static void callRules(String code) {
+        String[] lines = code.split("\n");
+        Map<String, Set<String>> calls = new TreeMap<>();
+        for (int at = 0; at < lines.length; at++) {
+            Matcher header = HEADER.matcher(lines[at]);
+            if (header.matches()) {
+                String body = String.join("\n", List.of(lines).subList(at + 1, closingLine(lines, at)));
+                Set<String> called = calls.computeIfAbsent(header.group(2), name -> new TreeSet<>());
+                Matcher call = Pattern.compile("\\b(\\w+)\\(").matcher(body);
+                while (call.find()) {
+                    called.add(call.group(1));
+                }
+                boolean callsItself = Pattern.compile("(?<!\\.)\\b" + header.group(2) + "\\(").matcher(body).find();
+                hold(!callsItself || header.group(1).equals("private static "), header.group(2) + " calls itself and is not private static");
+            }
+        }
+        hold(calls.keySet().containsAll(Set.of("kind", "since", "cover", "versionAt")), "the scan does not see all methods");
+        for (String name : calls.keySet()) {
+            descend(name, calls, new ArrayList<>());
+        }
+    }
+
+    private static void descend(String name, Map<String, Set<String>> calls, List<String> open) {
+        hold(!open.contains(name), name + " comes round: " + open);
+        hold(open.size() < MOST_DEPTH, "calls too deep: " + open + " " + name);
+        if (open.contains(name) || open.size() >= MOST_DEPTH) {
+            return;
+        }
+        open.add(name);
+        for (String called : calls.get(name)) {
+            if (calls.containsKey(called) && !called.equals(name)) {
+                descend(called, calls, open);
+            }
+        }
+        open.remove(open.size() - 1);
     }
 
     public static void main(String[] args) throws Exception {
